@@ -24,18 +24,16 @@ public final class RiverDrains {
 
     private final byte[] tape = new byte[TAPE_MOST];
     private int tapeLength = 0;
-    private final TextReader reader = new TextReader(tape);
     private Town town = new Town();
     // A TEXT with a FAULT leaves all as it is, so the next one is read into this town first.
     private Town spare = new Town();
+    private final TextReader reader = new TextReader(tape, spare);
     private final Net net = new Net();
-    private final Judge judge = new Judge(net);
-    private final Trees trees = new Trees();
-    private final Stages plan = new Stages();
+    private final Judge judge = new Judge(net, town);
+    private final Trees trees = new Trees(town);
+    private final Stages plan = new Stages(net, town);
 
     public RiverDrains() {
-        judge.serve(town);
-        trees.serve(town);
     }
 
     public int feed(int a, int b, int c, int d, int e) {
@@ -289,7 +287,7 @@ public final class RiverDrains {
         if (!judge.allRunOut() || what < 0 || what >= town.corners) {
             return NONE;
         }
-        plan.settle(town, net);
+        plan.settle(town);
         return what == 0 ? plan.sum : plan.order[what - 1];
     }
 
@@ -297,7 +295,7 @@ public final class RiverDrains {
         if (!judge.allRunOut() || n < 0 || n >= CORNERS_MOST) {
             return NONE;
         }
-        return plan.sumOf(town, net, n, order);
+        return plan.sumOf(town, n, order);
     }
 
     public int first(int what) {
@@ -617,14 +615,14 @@ public final class RiverDrains {
                 case MINUS: return x - y;
                 case TIMES:
                     // Both are below 10 to the 12, so only a look ahead keeps the product in a long.
-                    return y != 0 && Math.abs(x) > VALUE_MOST / Math.abs(y) ? ERROR : x * y;
+                    return y != 0 && (x < 0 ? -x : x) > VALUE_MOST / (y < 0 ? -y : y) ? ERROR : x * y;
                 case BY: return y == 0 ? ERROR : x / y;
                 default: return ERROR;
             }
         }
     }
 
-    /** The TOKENS of a TEXT, one at a time. */
+    /** The TOKENS of a TEXT: all are cut out first, then they are handed out one at a time. */
     private static final class Tokens {
         static final int END = 0;
         static final int WORD = 1;
@@ -667,8 +665,12 @@ public final class RiverDrains {
 
         private final byte[] bytes;
         private final int[] keys = new int[KEYS];
+        private final int[] kinds = new int[TAPE_MOST + 1];
+        private final int[] values = new int[TAPE_MOST + 1];
+        private final int[] places = new int[TAPE_MOST + 1];
         private int length;
         private int next;
+        private int current;
         int kind;
         int value;
         int place;
@@ -690,7 +692,25 @@ public final class RiverDrains {
         void start(int n) {
             length = Math.min(n, bytes.length);
             next = 0;
+            kind = NUMBER;
+            for (int i = 0; i <= TAPE_MOST && kind != END; i++) {
+                cut();
+                kinds[i] = kind;
+                values[i] = value;
+                places[i] = place;
+            }
+            current = NONE;
             step();
+        }
+
+        // The END is handed out for ever.
+        void step() {
+            if (current < TAPE_MOST && (current < 0 || kinds[current] != END)) {
+                current++;
+                kind = kinds[current];
+                value = values[current];
+                place = places[current];
+            }
         }
 
         boolean isKey(int word) {
@@ -701,7 +721,7 @@ public final class RiverDrains {
             return kind == SIGN && value == sign;
         }
 
-        void step() {
+        private void cut() {
             while (next < length && (bytes[next] == 10 || bytes[next] == 32)) {
                 next++;
             }
@@ -709,11 +729,11 @@ public final class RiverDrains {
             if (next >= length) {
                 kind = END;
             } else if (isLetter(bytes[next])) {
-                scanWord();
+                cutWord();
             } else if (isDigit(bytes[next])) {
-                scanNumber();
+                cutNumber();
             } else {
-                scanSign();
+                cutSign();
             }
         }
 
@@ -725,7 +745,7 @@ public final class RiverDrains {
             return sign >= '0' && sign <= '9';
         }
 
-        private void scanWord() {
+        private void cutWord() {
             int letters = 0;
             value = 0;
             while (next < length && isLetter(bytes[next])) {
@@ -744,7 +764,7 @@ public final class RiverDrains {
             }
         }
 
-        private void scanNumber() {
+        private void cutNumber() {
             kind = NUMBER;
             value = 0;
             while (next < length && isDigit(bytes[next])) {
@@ -753,7 +773,7 @@ public final class RiverDrains {
             }
         }
 
-        private void scanSign() {
+        private void cutSign() {
             int sign = bytes[next];
             next++;
             kind = SIGN;
@@ -795,9 +815,10 @@ public final class RiverDrains {
         int fault = 0;
         int place = NONE;
 
-        TextReader(byte[] tape) {
+        TextReader(byte[] tape, Town first) {
             scan = new Tokens(tape);
-            formula = new Formula(scan);
+            formula = new Formula(scan, first.laws);
+            town = first;
         }
 
         int read(Town into, int n) {
@@ -1073,8 +1094,9 @@ public final class RiverDrains {
         private boolean sideDue;
         private boolean ended;
 
-        Formula(Tokens tokens) {
+        Formula(Tokens tokens, Laws first) {
             scan = tokens;
+            laws = first;
         }
 
         /** The FAULT at the TOKEN on which it stops; 0 at the ';' behind the E. */
@@ -1305,17 +1327,18 @@ public final class RiverDrains {
         private final int[] order = new int[CORNERS_MOST];
         private final int[] waits = new int[CORNERS_MOST];
         private int ordered;
+        private final int[] street;
         private Town town;
-        private int[] street;
 
-        Flows() {
+        /** The street of each CORNER tells where its water runs; NONE: nowhere. */
+        Flows(int[] streetOf, Town first) {
+            street = streetOf;
+            town = first;
             Arrays.fill(most, Long.MAX_VALUE);
         }
 
-        /** The street of each CORNER tells where its water runs; NONE: nowhere. */
-        void run(Town of, int[] streetOf) {
+        void run(Town of) {
             town = of;
-            street = streetOf;
             for (int corner = 0; corner < town.corners; corner++) {
                 rainOn(corner);
             }
@@ -1404,16 +1427,19 @@ public final class RiverDrains {
 
     /** The NET laid under every LAW. */
     private static final class Judge {
-        final Flows plain = new Flows();
-        final Flows capped = new Flows();
+        final Flows plain;
+        final Flows capped;
         boolean fresh;
         int law;
         int culprit;
         private final Net net;
         private Town town;
 
-        Judge(Net judged) {
-            net = judged;
+        Judge(Net laid, Town first) {
+            net = laid;
+            plain = new Flows(laid.street, first);
+            capped = new Flows(laid.street, first);
+            serve(first);
         }
 
         void serve(Town told) {
@@ -1428,8 +1454,8 @@ public final class RiverDrains {
             for (int corner = 0; corner < town.corners; corner++) {
                 capped.most[corner] = net.street[corner] == NONE ? 0 : carriedBy(corner);
             }
-            plain.run(town, net.street);
-            capped.run(town, net.street);
+            plain.run(town);
+            capped.run(town);
             fresh = true;
         }
 
@@ -1589,11 +1615,16 @@ public final class RiverDrains {
         long least;
         int leastStreets;
         int sets;
-        private final Depths depths = new Depths();
+        private final Depths depths;
         private final long[] cost = new long[SETS];
         private final long[] key = new long[SETS];
         private Town town;
         private boolean settled;
+
+        Trees(Town first) {
+            depths = new Depths(first);
+            serve(first);
+        }
 
         void serve(Town told) {
             town = told;
@@ -1680,8 +1711,8 @@ public final class RiverDrains {
         private static final int FALLS = 100;
 
         long key;
-        private final Flows flows = new Flows();
         private final int[] street = new int[CORNERS_MOST];
+        private final Flows flows;
         private final int[] order = new int[CORNERS_MOST];
         private int reached;
         // The STREETS of the branch of which a CORNER's table stands.
@@ -1704,6 +1735,11 @@ public final class RiverDrains {
         private long entryCost;
         private long entryKey;
 
+        Depths(Town first) {
+            flows = new Flows(street, first);
+            serve(first);
+        }
+
         void serve(Town told) {
             town = told;
             priced = false;
@@ -1720,7 +1756,7 @@ public final class RiverDrains {
                 price();
             }
             orient(streets);
-            flows.run(town, street);
+            flows.run(town);
             for (int i = reached - 1; i > 0; i--) {
                 gather(order[i]);
                 if (isNew(order[i])) {
@@ -1853,7 +1889,7 @@ public final class RiverDrains {
             int at = width * DEPTHS + a;
             entryCost = noneBelow[at];
             entryKey = noneBelow[KEY + at];
-            if (!town.laws.isTold(Laws.PUMP)) {
+            if (children == 0 || !town.laws.isTold(Laws.PUMP)) {
                 return;
             }
             for (int deep = a + 1; deep <= town.cover[Town.MOST]; deep++) {
@@ -1867,8 +1903,9 @@ public final class RiverDrains {
         }
 
         private void layEnds(int corner, int width, int a) {
-            int to = town.otherEnd(street[corner], corner);
-            int length = town.street[street[corner]][Town.LENGTH];
+            int way = street[corner];
+            int to = town.otherEnd(way, corner);
+            int length = town.street[way][Town.LENGTH];
             int drop = town.corner[corner][Town.HEIGHT] - a - town.corner[to][Town.HEIGHT];
             int least = Math.max(town.cover[Town.LEAST], length * town.falls[Town.LEAST] - drop);
             int most = Math.min(town.cover[Town.MOST], length * town.falls[Town.MOST] - drop);
@@ -1876,19 +1913,20 @@ public final class RiverDrains {
                 most = Math.min(most, town.corner[to][Town.HEIGHT] - town.level);
             }
             long needed = flows.greatest(corner);
-            long[] row = exact[corner];
+            long unit = 1L << shiftOf(corner);
             for (int b = least; b <= most; b++) {
-                if (carrying[width][town.fallByLength(street[corner], drop + b)] < needed) {
-                    continue;
+                if (carrying[width][town.fallByLength(way, drop + b)] >= needed) {
+                    long each = town.pipe[width][Town.PRICE] + digging[corner][width * DEPTHS + (a + b) / 2];
+                    long costKey = entryKey + (width << 8 | a << 4 | b) * unit;
+                    offer(exact[corner], width * DEPTHS + b, entryCost + length * each, costKey);
                 }
-                long each = town.pipe[width][Town.PRICE] + digging[corner][width * DEPTHS + (a + b) / 2];
-                long cost = entryCost + length * each;
-                long costKey = entryKey + ((long) (width << 8 | a << 4 | b) << shiftOf(corner));
-                int at = width * DEPTHS + b;
-                if (isLess(cost, costKey, row[at], row[KEY + at])) {
-                    row[at] = cost;
-                    row[KEY + at] = costKey;
-                }
+            }
+        }
+
+        private static void offer(long[] row, int at, long cost, long costKey) {
+            if (isLess(cost, costKey, row[at], row[KEY + at])) {
+                row[at] = cost;
+                row[KEY + at] = costKey;
             }
         }
 
@@ -1902,21 +1940,14 @@ public final class RiverDrains {
                 for (int deep = town.cover[Town.LEAST]; deep <= town.cover[Town.MOST]; deep++) {
                     int at = width * DEPTHS + deep;
                     if (width > 0) {
-                        takeLess(just, at, just, at - DEPTHS);
+                        offer(just, at, just[at - DEPTHS], just[KEY + at - DEPTHS]);
                     }
                     upTo[at] = just[at];
                     upTo[KEY + at] = just[KEY + at];
                     if (deep > town.cover[Town.LEAST]) {
-                        takeLess(upTo, at, upTo, at - 1);
+                        offer(upTo, at, upTo[at - 1], upTo[KEY + at - 1]);
                     }
                 }
-            }
-        }
-
-        private static void takeLess(long[] into, int at, long[] from, int fromAt) {
-            if (isLess(from[fromAt], from[KEY + fromAt], into[at], into[KEY + at])) {
-                into[at] = from[fromAt];
-                into[KEY + at] = from[KEY + fromAt];
             }
         }
 
@@ -1958,12 +1989,16 @@ public final class RiverDrains {
         final int[] order = new int[CORNERS_MOST];
         // By the CORNERS that come to the river already: what all later STAGES cost at least.
         private final long[] rest = new long[1 << CORNERS_MOST];
+        private final Net net;
         private Town town;
-        private Net net;
 
-        void settle(Town of, Net laid) {
-            town = of;
+        Stages(Net laid, Town first) {
             net = laid;
+            town = first;
+        }
+
+        void settle(Town of) {
+            town = of;
             int all = (1 << town.corners) - 1;
             rest[all] = 0;
             for (int built = all - 1; built >= 0; built--) {
@@ -2011,9 +2046,8 @@ public final class RiverDrains {
             return (long) town.cart * area;
         }
 
-        long sumOf(Town of, Net laid, int n, int told) {
+        long sumOf(Town of, int n, int told) {
             town = of;
-            net = laid;
             int built = 1 << town.river;
             long costs = 0;
             for (int turn = 0; turn < n; turn++) {

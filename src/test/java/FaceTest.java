@@ -71,6 +71,7 @@ public final class FaceTest {
             long fields = Arrays.stream(c.getDeclaredFields()).filter(f -> !Modifier.isStatic(f.getModifiers())).count();
             checks.due(c + " has at most twenty fields, not " + fields, fields <= 20, true);
             for (Method m : c.getDeclaredMethods()) {
+                checks.due(m + " bears a name of the face", FACE.stream().anyMatch(f -> f.contains(" " + m.getName() + "(")), false);
                 checks.due(m + " takes at most seven", m.getParameterCount() <= 7, true);
             }
         }

@@ -7,6 +7,9 @@ import java.util.Random;
 /** Runs of calls by chance on towns by chance: every answer is the oracle's. */
 public final class OracleTest {
     private static final Checks CHECKS = new Checks();
+    private static int lawful = 0;
+    private static int lifted = 0;
+    private static int large = 0;
 
     private final Random random;
     private final String text;
@@ -25,7 +28,7 @@ public final class OracleTest {
     }
 
     public static void main(String[] args) throws Oracle.Fault {
-        Random random = new Random(11);
+        Random random = new Random(args.length > 0 ? Long.parseLong(args[0]) : 11);
         for (int i = 0; i < 1500 && CHECKS.isClean(); i++) {
             OracleTest test = new OracleTest(random, RandomTown.text(random, 1 + random.nextInt(7), random.nextInt(4) * 4));
             for (int step = 0; step < 25; step++) {
@@ -33,15 +36,18 @@ public final class OracleTest {
                 test.compareNet();
             }
         }
-        int lawful = 0;
         for (int i = 0; i < 4000 && CHECKS.isClean(); i++) {
-            OracleTest test = new OracleTest(random, RandomTown.text(random, 1 + random.nextInt(4), random.nextInt(5) * 3));
-            if (test.combinations() < 3000) {
-                lawful += test.compareTrees();
+            int corners = i % 3 == 0 ? 5 + random.nextInt(2) : 1 + random.nextInt(4);
+            OracleTest test = new OracleTest(random, i % 2 == 0
+                ? RandomTown.level(random, corners) : RandomTown.text(random, corners, random.nextInt(5) * 3));
+            if (test.combinations() < (corners > 4 ? 300 : 3000)) {
+                test.compareTrees();
             }
         }
-        System.out.println(lawful + " lawful trees");
-        CHECKS.due("enough lawful trees", lawful > 1000 ? 1 : 0, 1);
+        System.out.println(lawful + " lawful trees, " + lifted + " with pumps, " + large + " large");
+        CHECKS.due("enough lawful trees", lawful > 3000, true);
+        CHECKS.due("enough pumps", lifted > 500, true);
+        CHECKS.due("enough large ones", large > 1000, true);
         CHECKS.end();
     }
 
@@ -232,23 +238,22 @@ public final class OracleTest {
         due("stage " + order, x.stage(n, packed), due.stage(net, order));
     }
 
-    private int compareTrees() {
+    private void compareTrees() {
         int all = 1 << due.streets.size();
         long[] cost = new long[all];
-        int lawful = 0;
         int best = -1;
         int sets = 0;
         for (int bits = 0; bits < all; bits++) {
             cost[bits] = due.cheapest(bits);
             due("cheapest " + bits, x.cheapest(bits), cost[bits]);
             sets += due.isTree(bits) ? 1 : 0;
-            lawful += cost[bits] >= 0 ? 1 : 0;
             best = cost[bits] >= 0 && (best < 0 || cost[bits] < cost[best]) ? bits : best;
             boolean can = cost[bits] >= 0;
             due("laid " + bits, x.laid(bits) ? 1 : 0, can ? 1 : 0);
             if (can) {
                 remember();
                 net = due.cheapestNet();
+                countNet();
                 due("judged", x.judged(0), 0);
                 compareNet();
             }
@@ -261,7 +266,16 @@ public final class OracleTest {
                 due("without " + one + " " + other, x.without(one, other), without(cost, best, one, other));
             }
         }
-        return lawful;
+    }
+
+    private void countNet() {
+        boolean pumped = false;
+        for (int c = 0; c < net.length; c++) {
+            pumped |= net[c] != null && due.lift(net, c) > 0;
+        }
+        lawful++;
+        lifted += pumped ? 1 : 0;
+        large += net.length > 4 ? 1 : 0;
     }
 
     private long without(long[] cost, int best, int one, int other) {

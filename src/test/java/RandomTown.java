@@ -51,6 +51,26 @@ final class RandomTown {
         return String.join(random.nextBoolean() ? ";" : " ;\n", lines) + ";";
     }
 
+    /** Level ground and pumps: pipes must dig down, and lifts are worth their cost at times. */
+    static String level(Random random, int corners) {
+        List<String> lines = new ArrayList<>();
+        for (int c = 0; c < corners; c++) {
+            lines.add("corner " + (char) ('a' + c) + " " + (50 + random.nextInt(2)) + " " + random.nextInt(3) + " rock 2");
+        }
+        lines.add("river " + (char) ('a' + random.nextInt(corners)) + " 40");
+        addStreets(random, corners, lines);
+        for (int p = 1; p <= 1 + random.nextInt(2); p++) {
+            lines.add("pipe " + 3 * p + " " + p);
+        }
+        lines.add("cover " + random.nextInt(2) + " " + (2 + random.nextInt(2)));
+        lines.add("falls 0 4");
+        lines.add("rain x 1 2 1");
+        lines.add("law carry 6+wide*fall");
+        lines.add("law dig " + pick(random, DIG));
+        lines.add("law pump " + pick(random, PUMP));
+        return String.join(";", lines) + ";";
+    }
+
     private static void addStreets(Random random, int corners, List<String> lines) {
         List<String> pairs = new ArrayList<>();
         for (int c = 0; c < corners; c++) {

@@ -12,7 +12,7 @@ public final class TextFaultsTest {
 
     public static void main(String[] args) {
         Checks checks = new Checks();
-        Random random = new Random(7);
+        Random random = new Random(args.length > 0 ? Long.parseLong(args[0]) : 7);
         for (int i = 0; i < 60000 && checks.isClean(); i++) {
             compare(checks, spoil(random, RandomTown.text(random, 1 + random.nextInt(7), random.nextInt(4) * 10)));
         }

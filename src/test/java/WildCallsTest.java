@@ -10,7 +10,7 @@ public final class WildCallsTest {
 
     public static void main(String[] args) {
         Checks checks = new Checks();
-        Random random = new Random(3);
+        Random random = new Random(args.length > 0 ? Long.parseLong(args[0]) : 3);
         for (int i = 0; i < 2500 && checks.isClean(); i++) {
             RiverDrains x = new RiverDrains();
             if (i % 10 != 0) {
