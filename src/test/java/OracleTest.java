@@ -7,6 +7,8 @@ import java.util.Random;
 /** Runs of calls by chance on towns by chance: every answer is the oracle's. */
 public final class OracleTest {
     private static final Checks CHECKS = new Checks();
+    // Mostly told anew, so that nothing of an earlier town may shine through.
+    private static RiverDrains object = new RiverDrains();
     private static int lawful = 0;
     private static int lifted = 0;
     private static int large = 0;
@@ -22,9 +24,49 @@ public final class OracleTest {
     private OracleTest(Random random, String text) throws Oracle.Fault {
         this.random = random;
         this.text = text;
-        x = Checks.town(text);
+        if (random.nextInt(5) == 0) {
+            object = new RiverDrains();
+        }
+        x = object;
         due = new Oracle(text);
+        CHECKS.due("text of [" + text + "]", Checks.tell(x, text), due.lines);
         net = new Oracle.Laid[due.corners.size()];
+        compareTold();
+    }
+
+    private void compareTold() {
+        for (int i = -1; i < 8; i++) {
+            boolean isCorner = i >= 0 && i < due.corners.size();
+            due("named corner " + i, x.named(0, Checks.letters("" + (char) ('a' + i))), isCorner ? i : -1);
+            if (isCorner) {
+                Oracle.Corner c = due.corners.get(i);
+                due("look " + i, x.look(i, 0) * 10000L + x.look(i, 1) * 100L + x.look(i, 2), c.height() * 10000L + c.area() * 100L + c.rock());
+            }
+        }
+        for (int i = -1; i < 11; i++) {
+            Oracle.Street s = i >= 0 && i < due.streets.size() ? due.streets.get(i) : new Oracle.Street(-1, -1, -1, -1, -1);
+            int[] want = {s.from(), s.to(), s.length(), s.hours(), s.risk()};
+            for (int what = 0; what < 5; what++) {
+                due("street " + i + " " + what, x.street(i, what), want[what]);
+            }
+        }
+        for (int i = -1; i < 5; i++) {
+            Oracle.Width w = i >= 0 && i < due.widths.size() ? due.widths.get(i) : new Oracle.Width(-1, -1);
+            due("pipe " + i, x.pipe(i, 0), w.wide());
+            due("price " + i, x.pipe(i, 1), w.cost());
+        }
+        for (char name = 'a'; name <= 'z'; name++) {
+            int want = -1;
+            for (int i = 0; i < due.rains.size(); i++) {
+                want = due.rains.get(i).name().equals("" + name) ? i : want;
+            }
+            due("named rain " + name, x.named(1, Checks.letters("" + name)), want);
+        }
+        long[] counts = {due.corners.size(), due.streets.size(), due.widths.size(), due.rains.size(), due.knots, 0, due.river, due.level, 0};
+        for (int what = 0; what < counts.length; what++) {
+            due("count " + what, x.count(what), counts[what]);
+        }
+        due("no image", x.back(), -1);
     }
 
     public static void main(String[] args) throws Oracle.Fault {

@@ -108,6 +108,9 @@ public final class PromisesTest {
         due("the tape is empty", x.text(1), -2);
         due("the fault stays", x.fault(0), 3);
         due("the image stays", x.back(), 3);
+        Checks.feed(x, "cart 12;");
+        due("cut within a number", x.text(6), -1);
+        due("its length", x.fault(1), 6);
         due("a text without lines", x.text(0), 0);
         due("no fault then", x.fault(0), 0);
         due("no place then", x.fault(1), -1);
