@@ -1,13 +1,27 @@
 /** Counts the answers that are not as due, and tells texts to an object. */
 final class Checks {
+    private static final int PRINTED_MOST = 40;
+
+    private final String about;
     private int asked = 0;
     private int wrong = 0;
+
+    Checks() {
+        this("");
+    }
+
+    /** Each row that is printed begins with what the answers are about. */
+    Checks(String about) {
+        this.about = about.isEmpty() ? "" : about + ": ";
+    }
 
     void due(String call, long got, long want) {
         asked++;
         if (got != want) {
             wrong++;
-            System.out.println(call + " answered " + got + ", due is " + want);
+        }
+        if (got != want && wrong <= PRINTED_MOST) {
+            System.out.println(about + call + " answered " + got + ", due is " + want);
         }
     }
 
@@ -15,8 +29,28 @@ final class Checks {
         due(call, got ? 1 : 0, want ? 1 : 0);
     }
 
+    /** A TEXT that is refused with this FAULT at this place. */
+    void fault(String text, int number, int place) {
+        RiverDrains x = new RiverDrains();
+        due("text of [" + text + "]", tell(x, text), -1);
+        due("fault of [" + text + "]", x.fault(0), number);
+        due("place of [" + text + "]", x.fault(1), place);
+    }
+
+    /** A TEXT of so many LINES without a FAULT. */
+    void fine(String text, int lines) {
+        RiverDrains x = new RiverDrains();
+        due("text of [" + text + "]", tell(x, text), lines);
+        due("fault of [" + text + "]", x.fault(0), 0);
+        due("place of [" + text + "]", x.fault(1), -1);
+    }
+
     boolean isClean() {
         return wrong == 0;
+    }
+
+    int asked() {
+        return asked;
     }
 
     void end() {
