@@ -79,6 +79,11 @@ public final class FaultEdgesTest {
             if (!token) {
                 c.fault("cart 1;" + (char) sign, 1, 7);
                 c.fault("cart 1" + (char) sign + ";", 1, 6);
+                c.fault("law carry ((1)" + (char) sign + ";", 1, 14);
+                for (int number = 0; number < 40; number++) {
+                    String law = "law carry " + number;
+                    c.fault(law + (char) sign + "1;", 1, law.length());
+                }
             }
         }
     }

@@ -274,16 +274,20 @@ public final class PipeEdgesTest {
     static void promise12_namesOfCarry(Checks c) {
         carried(c, "wide", 7);
         carried(c, "fall", 6);
-        carried(c, "deep", 0);
-        carried(c, "rocky", 0);
-        carried(c, "lift", 0);
-        carried(c, "flow", 0);
+        carried(c, "5+deep", 5);
+        carried(c, "5+rocky", 5);
+        carried(c, "5+lift", 5);
+        carried(c, "5+flow", 5);
         RiverDrains x = Checks.town("corner a 30 1 rock 0;corner b 10 1;corner c 50 1;street a b 3;street c a 1;pipe 7 0;"
-            + "rain z 1;law carry deep+rocky+lift+flow;law dig deep+rocky;law pump lift+flow;");
+            + "rain z 1;law carry 5+deep+rocky+lift+flow;law dig 5+fall+lift+flow;law pump 5+wide+fall+deep+rocky;");
         x.lay(0, 0, 0, 2, 2);
         x.lay(2, 1, 0, 2, 5);
-        x.all();
-        c.due("none of dig and pump shines through", x.carries(0), 0);
+        for (int i = 0; i < 2; i++) {
+            c.due("none of dig and pump shines through", x.carries(0), 5);
+            c.due("none of carry and pump", x.cost(0, 0), 3 * 5);
+            c.due("none of carry and dig", x.cost(0, 1), 5);
+            c.due("none of carry and pump again", x.cost(0, 0), 3 * 5);
+        }
     }
 
     // "0 at least"
@@ -332,7 +336,22 @@ public final class PipeEdgesTest {
         // 2 to the 32 by itself would go round to 0.
         carried(c, "5+4096*4096*256*(4096*4096*256)", 0);
         carried(c, "5+4096*4096*256*(0-4096*4096*256)", 0);
+        // So would 2 to the 37 by 2 to the 27.
+        carried(c, "5+4096*4096*8192*(4096*4096*8)", 0);
+        carried(c, "5+4096*4096*8*(4096*4096*8192)", 0);
         carried(c, "9999*9999*9999", 999_700_029_999L);
+    }
+
+    // Values below 0, -1 among them, are values like others.
+    static void promise12_belowZero(Checks c) {
+        carried(c, "9+3*(0-1)", 6);
+        carried(c, "9+(0-1)*3", 6);
+        carried(c, "(0-3)*(0-1)", 3);
+        carried(c, "9+0*(0-1)", 9);
+        carried(c, "9+(0-1)*0", 9);
+        carried(c, "9+3/(0-1)", 6);
+        carried(c, "9-(0-1)", 10);
+        carried(c, "9+(0-1)", 8);
     }
 
     // "/ is cut towards 0"
@@ -363,7 +382,7 @@ public final class PipeEdgesTest {
         int[][] due = {{1, 0, 0}, {1, 1, 0}, {0, 1, 0}, {1, 0, 1}, {0, 1, 1}, {0, 0, 1}};
         for (int i = 0; i < signs.length; i++) {
             for (int left = 4; left <= 6; left++) {
-                carried(c, left + signs[i] + "5", due[i][left - 4]);
+                carried(c, "3+(" + left + signs[i] + "5)", 3 + due[i][left - 4]);
             }
         }
         carried(c, "0-1<0", 1);
@@ -375,16 +394,17 @@ public final class PipeEdgesTest {
     // "and, or, not are 1 or 0 (what isn't 0 is as 1"
     static void promise12_andOrNot(Checks c) {
         carried(c, "5 and 7", 1);
-        carried(c, "5 and 0", 0);
-        carried(c, "0 and 5", 0);
+        carried(c, "3+(5 and 0)", 3);
+        carried(c, "3+(0 and 5)", 3);
+        carried(c, "3+(0 and 0)", 3);
         carried(c, "5 or 0", 1);
         carried(c, "0 or 7", 1);
-        carried(c, "0 or 0", 0);
+        carried(c, "3+(0 or 0)", 3);
         carried(c, "(0-5) or 0", 1);
         carried(c, "(0-5) and (0-1)", 1);
         carried(c, "not 0", 1);
-        carried(c, "not 7", 0);
-        carried(c, "not (0-1)", 0);
+        carried(c, "3+(not 7)", 3);
+        carried(c, "3+(not (0-1))", 3);
         carried(c, "not not 7", 1);
         carried(c, "not not not 7", 0);
         carried(c, "2 and 4", 1);
@@ -424,6 +444,17 @@ public final class PipeEdgesTest {
         carried(c, "not ".repeat(63) + "0", 1);
         carried(c, "1-(2-(3-(4-(5-(6-(7-(8-(9-1))))))))", 1 - 2 + 3 - 4 + 5 - 6 + 7 - 8 + 9 - 1);
         carried(c, "9 or 0 and not 1<2+3*(4 or 0 and not 1<2+3*(4 or 0 and not 1<2+3*(4 or 0 and not 1<2+3*4)))", 1);
+    }
+
+    // The longest laws of one TEXT after another are worked out each anew.
+    static void promise12_theLongestLawAgain(Checks c) {
+        RiverDrains x = new RiverDrains();
+        for (int turn = 0; turn < 6; turn++) {
+            Checks.tell(x, "corner a 30 1;corner b 10 1;street a b 3;pipe 7 0;law carry " + turn + "+1".repeat(31) + ";law dig 3;");
+            x.lay(0, 0, 0, 2, 2);
+            c.due("carries", x.carries(0), turn + 31);
+            c.due("cost", x.cost(0, 0), 3 * 3);
+        }
     }
 
     // "NONE: none is laid, no such CORNER"
@@ -474,7 +505,7 @@ public final class PipeEdgesTest {
     static void promise13_namesOfDig(Checks c) {
         c.due("wide", dugBy("wide", "", 2, 2), 7);
         c.due("all", dugBy("wide*100+deep*10+rocky", " rock 1", 3, 3), 732);
-        c.due("others", dugBy("fall+lift+flow", "", 2, 2), 0);
+        c.due("others", dugBy("5+fall+lift+flow", "", 2, 2), 5);
     }
 
     // "Each of dig, pump 0 at least": dig
@@ -535,7 +566,7 @@ public final class PipeEdgesTest {
     // "pump's E by lift, flow", "Other NAMES are 0"
     static void promise13_namesOfPump(Checks c) {
         c.due("lift", pumpedBy("law pump lift;", 6), 4);
-        c.due("others", pumpedBy("law pump wide+fall+deep+rocky;law dig wide+deep;law carry wide+fall;", 6), 0);
+        c.due("others", pumpedBy("law pump 5+wide+fall+deep+rocky;law dig wide+deep;law carry wide+fall;", 6), 5);
     }
 
     // "flow (the greatest of the PIPE": that of the PIPE behind the PUMP, over all hours

@@ -250,8 +250,13 @@ public final class PlanEdgesTest {
 
     // "the PIPE with the greatest risk times all AREA that runs through it"
     static void promise29_riskTimesArea(Checks c) {
-        RiverDrains x = row("");
-        c.due("b: 9 * (9 + 1), a: 10 * 9", x.first(1), 90);
+        RiverDrains x = Checks.town(ROW.replace("a b 5 risk 10", "a b 5 risk 9"));
+        x.lay(0, 0, 0, 2, 2);
+        c.due("a: 9 * 9", x.first(1), 81);
+        x.lay(1, 1, 0, 2, 2);
+        c.due("b: 9 * (9 + 1)", x.first(1), 90);
+        c.due("b", x.first(0), 1);
+        x = row("");
         x.lay(0, 4, 0, 2, 2);
         c.due("b has 9, a 9 by the other street, c 2", x.first(1), 9);
         x = row("");
@@ -295,6 +300,23 @@ public final class PlanEdgesTest {
         x.take(0);
         c.due("no ring any more: d, c and b run to a", x.first(0), 2);
         c.due("c has b's and its own", x.first(1), 2 * (3 + 5));
+    }
+
+    // "of a ring too": the greatest ring of all, round the numbers and against them
+    static void promise29_ofARingOfSeven(Checks c) {
+        RiverDrains x = Checks.town("corner a 9 1;corner b 9 2;corner d 9 4;corner e 9 8;corner f 9 16;corner g 9 32;corner h 9 64;"
+            + "street a b 1 risk 0;street b d 1 risk 0;street d e 1 risk 0;street e f 1 risk 0;street f g 1 risk 0;street g h 1 risk 0;"
+            + "street h a 1 risk 3;pipe 1 1;");
+        for (int corner = 0; corner < 7; corner++) {
+            x.lay(corner, corner, 0, 2, 2);
+        }
+        c.due("h", x.first(0), 6);
+        c.due("all of it", x.first(1), 3 * 127);
+        for (int corner = 0; corner < 7; corner++) {
+            x.lay(corner, (corner + 6) % 7, 0, 2, 2);
+        }
+        c.due("a", x.first(0), 0);
+        c.due("all of it again", x.first(1), 3 * 127);
     }
 
     // The greatest: 99 times the AREA of all

@@ -300,6 +300,54 @@ public final class TapeEdgesTest {
         c.due("pump", x.broken(0), 5);
     }
 
+    // The same of a third TEXT and on: each begins anew.
+    static void promise03_oneTextAfterAnother(Checks c) {
+        RiverDrains x = new RiverDrains();
+        for (int turn = 0; turn < 6; turn++) {
+            Checks.tell(x, "corner a 9 1;corner b 1 1;river b 0;street a b 1;pipe 1 1;pipe 2 1;rain z 1 2 3 4 5 6;rain y 9;falls 0 1;cover 0 1;cart 5;"
+                + "law dig 5+(6+7*1);law carry not 0;law pump 8;");
+            c.due("knots", x.count(4), 10);
+            x.lay(0, 0, 0, 2, 2);
+            c.due("dug", x.cost(0, 0), 1 + 18);
+            c.due("carries", x.carries(0), 1);
+            c.due("rain", x.flow(0, 0, 5), 6);
+            Checks.tell(x, "rain x 7;corner b 40 1;corner a 30 1;street b a 5;pipe 3 1;");
+            c.due("rains", x.count(3), 1);
+            c.due("pipes", x.count(2), 1);
+            c.due("knots", x.count(4), 0);
+            x.lay(0, 0, 0, 2, 2);
+            c.due("lawful", x.broken(0), 6);
+            c.due("carries", x.carries(0), 6);
+            c.due("dug", x.cost(0, 0), 5 * (1 + 2));
+            c.due("rain", x.flow(0, 0, 0), 7);
+            c.due("an hour of another rain", x.flow(0, 0, 1), 0);
+            c.due("a rain of another text", x.flow(0, 1, 0), -1);
+            Checks.tell(x, "cart 3;");
+            c.due("no rains", x.count(3), 0);
+            c.due("no streets", x.count(1), 0);
+            c.due("no pipes", x.count(2), 0);
+        }
+    }
+
+    // A TEXT that follows one with a FAULT is read as if there had been none, wherever that stopped.
+    static void promise03_behindAFault(Checks c) {
+        String[] faults = {"corner a 9 1;corner b 9 1;corner a", "rain z 1 2 3 4 5 6 7", "rain z 9 9 9 9;rain z", "law carry (((1+2*(3", "law carry not 1+not",
+            "law carry 1+*", "law carry 1<2<3", "law pump 1;law dig 10000", "cart 1;falls 1", "pipe 99 1;pipe", "corner a 9 1;river a", "law pump 1;#"};
+        for (String fault : faults) {
+            RiverDrains x = new RiverDrains();
+            for (int turn = 0; turn < 3; turn++) {
+                c.due("fault of " + fault, Checks.tell(x, fault), -1);
+                c.due("text behind " + fault, Checks.tell(x, "cart 1;falls 1 9;cover 2 8;corner a 9 1;corner b 1 1;river b 0;street a b 1;pipe 5 1;rain z 1;"
+                    + "law carry 7+2*1;"), 10);
+                c.due("knots behind " + fault, x.count(4), 5);
+                x.lay(0, 0, 0, 2, 2);
+                c.due("carried behind " + fault, x.carries(0), 9);
+                c.due("flow behind " + fault, x.flow(0, 0, 1), 0);
+                c.due("dug behind " + fault, x.cost(0, 0), 3);
+            }
+        }
+    }
+
     // "NONE with a FAULT, all stays"
     static void promise03_allStaysWithAFault(Checks c) {
         RiverDrains x = laidTown();
@@ -417,8 +465,7 @@ public final class TapeEdgesTest {
             c.fault("river " + word + " 1;", 1, 6);
             c.fault("street " + word + " a 1;", 1, 7);
         }
-        c.fine("corner law 1 1;".replace("law", "laws"), 1);
-        c.fine("corner corn 1 1;corner ro 1 1;corner no 1 1;rain riv 1;", 4);
+        c.fine("corner laws 1 1;corner corn 1 1;corner ro 1 1;corner no 1 1;rain riv 1;", 5);
     }
 
     // "N: digits"

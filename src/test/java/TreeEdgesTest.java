@@ -176,6 +176,30 @@ public final class TreeEdgesTest {
         agrees(c, x, 3, 0);
     }
 
+    // The LIFT of a PUMP is that of the deepest of several, be it the first, the last or one between.
+    static void promise23_byAPumpOfSeveral(Checks c) {
+        // Each PIPE has to fall by 5: 27 comes at 4 if it begins at 1, 28 at 3, 30 at 1.
+        int[][] heights = {{27, 30, 28}, {28, 27, 30}, {30, 28, 27}, {28, 30, 27}};
+        for (int[] height : heights) {
+            RiverDrains x = Checks.town("corner a " + height[0] + " 1;corner b " + height[1] + " 1;corner d " + height[2] + " 1;corner c 25 1 rock 0;"
+                + "corner r 20 0;river r 0;street a c 1;street b c 1;street d c 1;street c r 1;pipe 2 1;falls 5 5;cover 1 4;rain z 1;"
+                + "law dig rocky*10;law pump lift*7+flow;");
+            agrees(c, x, 15, 3 + (1 + 10) + (3 * 7 + 4));
+            for (int corner = 0; corner < 3; corner++) {
+                c.due("a of " + height[corner], x.net(corner, 2), 1);
+                c.due("b of " + height[corner], x.net(corner, 3), height[corner] == 27 ? 4 : height[corner] == 28 ? 3 : 1);
+            }
+            c.due("a of c", x.net(3, 2), 1);
+        }
+    }
+
+    // A FALL of 99 for each LENGTH, the most that falls can say
+    static void promise23_theGreatestFall(Checks c) {
+        c.due("99 on 1", onlyPipe(ONE.replace("a 30", "a 119").replace("a r 5", "a r 1") + "falls 99 99;law carry fall=99;rain z 1;"), 10202);
+        c.due("990 on 10", onlyPipe(ONE.replace("a 30", "a 999").replace("r 20", "r 9").replace("r 10", "r 0").replace("a r 5", "a r 10")
+            + "falls 99 99;law carry fall=99;rain z 1;"), 10202);
+    }
+
     // LAW 6 of the CHEAPEST: as much as it carries is enough
     static void promise23_law6(Checks c) {
         String town = ONE.replace("pipe 5 3", "pipe 5 2");
@@ -331,6 +355,79 @@ public final class TreeEdgesTest {
         }
     }
 
+    // Seven CORNERS, the river's at each end and between: each PIPE as it has to be
+    static void promise24_sevenCorners(Checks c) {
+        String[] corners = {"corner a 25 1;", "corner b 24 5;", "corner c 23 1;", "corner d 26 5;", "corner e 27 1;", "corner f 28 5;"};
+        int[][] due = {{0, 1, 1}, {1, 1, 2}, {0, 1, 3}, {1, 2, 1}, {0, 3, 1}, {1, 4, 1}};
+        for (int river = 0; river < 7; river++) {
+            StringBuilder text = new StringBuilder();
+            for (int i = 0; i < 7; i++) {
+                text.append(i == river ? "corner r 20 0;" : corners[i < river ? i : i - 1]);
+            }
+            RiverDrains x = Checks.town(text + "river r 0;street a r 1;street b r 1;street c r 1;street d r 1;street e r 1;street f r 1;"
+                + "pipe 2 1;pipe 5 1;falls 5 5;cover 1 4;law dig 5;rain z 1;law carry wide;");
+            agrees(c, x, 63, 6 * (1 + 5));
+            for (int i = 0; i < 6; i++) {
+                int corner = i < river ? i : i + 1;
+                for (int what = 1; what < 4; what++) {
+                    c.due("river " + river + ": net " + corner + ", " + what, x.net(corner, what), due[i][what - 1]);
+                }
+            }
+        }
+    }
+
+    // Seven CORNERS in one row: the first one alone may be narrow
+    static void promise24_sevenInARow(Checks c) {
+        RiverDrains x = Checks.town("corner a 20 1;corner b 20 1;corner d 20 1;corner e 20 1;corner f 20 1;corner g 20 1;corner r 20 0;river r 0;"
+            + "street a b 1;street b d 1;street d e 1;street e f 1;street f g 1;street g r 1;pipe 2 1;pipe 5 1;falls 0 9;cover 1 2;law dig 5;rain z 1;"
+            + "law carry (fall=1)*9+(wide=5)*9;");
+        agrees(c, x, 63, 6 * (1 + 5));
+        for (int corner = 0; corner < 6; corner++) {
+            c.due("width of " + corner, x.net(corner, 1), corner == 0 ? 0 : 1);
+            c.due("a of " + corner, x.net(corner, 2), corner == 0 ? 1 : 2);
+            c.due("b of " + corner, x.net(corner, 3), 2);
+        }
+    }
+
+    // Seven CORNERS in one row, each PIPE too deep for the next: five PUMPS
+    static void promise24_sevenByPumps(Checks c) {
+        for (String row : new String[] {"abdefg", "gfedba", "dgabfe"}) {
+            StringBuilder text = new StringBuilder("corner a 20 1;corner b 20 1;corner d 20 1;corner e 20 1;corner f 20 1;corner g 20 1;corner r 20 0;"
+                + "river r 0;pipe 2 1;falls 1 1;cover 1 2;law dig 5;law pump lift*7;");
+            for (int i = 0; i < 6; i++) {
+                text.append("street ").append(row.charAt(i)).append(' ').append((row + "r").charAt(i + 1)).append(" 1;");
+            }
+            RiverDrains x = Checks.town(text.toString());
+            agrees(c, x, 63, 6 * (1 + 5) + 5 * 7);
+            for (int corner = 0; corner < 6; corner++) {
+                c.due("a of " + corner, x.net(corner, 2), 1);
+                c.due("b of " + corner, x.net(corner, 3), 2);
+            }
+        }
+    }
+
+    // A TREE that was asked of ahead of others is LAID as it is.
+    static void promise24_askedOfAheadOfOthers(Checks c) {
+        RiverDrains x = Checks.town(SQUARE);
+        x.cheapest(0b00111);
+        x.cheapest(0b01011);
+        x.tree(0);
+        agrees(c, x, 0b00111, 12);
+        c.due("a to b", x.net(0, 4), 1);
+        c.due("b to c", x.net(1, 4), 2);
+    }
+
+    // All answers are those of the NET that is LAID.
+    static void promise24_answersOfTheNet(Checks c) {
+        RiverDrains x = Checks.town(SQUARE + "rain z 1;law carry 9;");
+        x.laid(0b00111);
+        c.due("flow of c", x.flow(2, 0, 0), 3);
+        x.laid(0b01011);
+        c.due("flow of c", x.flow(2, 0, 0), 1);
+        c.due("flow of a", x.flow(0, 0, 0), 3);
+        c.due("worst of b", x.worst(1, 0), 2);
+    }
+
     // Of a PUMP and of none at the same COST: what counts is the order of NETS alone.
     static void promise24_aPumpOrNone(Checks c) {
         String town = ROW + "pipe 2 1;falls 1 1;cover 1 3;law dig 5;";
@@ -357,6 +454,28 @@ public final class TreeEdgesTest {
         x = Checks.town(alike.replace("t a b 1", "t a b 9"));
         c.due("cost", x.tree(0), 6);
         c.due("streets", x.tree(1), 0b01110);
+    }
+
+    // A TREE of STREETS that costs nothing is no -2.
+    static void promise25_noCost(Checks c) {
+        RiverDrains x = Checks.town(SQUARE.replace("pipe 2 1;", "pipe 2 0;law dig 0;"));
+        c.due("cost", x.tree(0), 0);
+        c.due("streets", x.tree(1), 0b00111);
+        c.due("cheapest", x.cheapest(0b00111), 0);
+        c.due("laid", x.laid(0b00111), true);
+    }
+
+    // "2: how many sets are TREES": of the latest TEXT, however often it is asked
+    static void promise25_howManyTreesThen(Checks c) {
+        RiverDrains x = Checks.town(SQUARE);
+        c.due("a square with one across", x.tree(2), 8);
+        c.due("once more", x.tree(2), 8);
+        Checks.tell(x, SQUARE);
+        c.due("the same text", x.tree(2), 8);
+        Checks.tell(x, ONE);
+        c.due("another text", x.tree(2), 1);
+        Checks.tell(x, "cart 1;");
+        c.due("no corners", x.tree(2), 0);
     }
 
     // "2: how many sets are TREES": lawful or not
@@ -424,6 +543,13 @@ public final class TreeEdgesTest {
         c.due("two others", x.without(3, 4), 0);
     }
 
+    // Nothing more than nothing: that is no -2, and no NONE.
+    static void promise26_noCost(Checks c) {
+        RiverDrains x = Checks.town(SQUARE.replace("pipe 2 1;", "pipe 2 0;law dig 0;"));
+        c.due("another one costs nothing, too", x.without(0, 0), 0);
+        c.due("both of r", x.without(2, 3), -2);
+    }
+
     // "-2: there is none"
     static void promise26_thereIsNone(Checks c) {
         RiverDrains x = Checks.town(SQUARE);
@@ -471,5 +597,25 @@ public final class TreeEdgesTest {
         c.due("cheapest", x.cheapest(0b00111), 6);
         Checks.tell(x, "cart 1;;");
         c.due("a text with a fault", x.tree(0), 6);
+    }
+
+    // The same where the STREETS are as they were, but what is dug, carried, pumped and falls is not
+    static void promise26_ofTheLatestLaws(Checks c) {
+        RiverDrains x = Checks.town(ONE);
+        c.due("without laws", x.cheapest(1), 5 * (1 + 2));
+        Checks.tell(x, ONE + "law dig deep*deep;");
+        c.due("dig", x.cheapest(1), 5 * (1 + 4));
+        Checks.tell(x, ONE + "law carry wide=5;rain z 1;");
+        c.due("carry", x.cheapest(1), 5 * (3 + 2));
+        Checks.tell(x, ONE.replace("corner a 30 1", "corner a 30 1 rock 0") + "law dig rocky*3;");
+        c.due("rock", x.cheapest(1), 5 * (1 + 6));
+        Checks.tell(x, ONE + "cover 4 4;");
+        c.due("cover", x.cheapest(1), 5 * (1 + 4));
+        Checks.tell(x, ONE + "falls 9 9;");
+        c.due("falls", x.cheapest(1), -2);
+        Checks.tell(x, ONE.replace("river r 10", "river r 19"));
+        c.due("level", x.cheapest(1), -2);
+        Checks.tell(x, ONE);
+        c.due("as at first", x.cheapest(1), 5 * (1 + 2));
     }
 }

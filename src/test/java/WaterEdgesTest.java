@@ -172,6 +172,23 @@ public final class WaterEdgesTest {
         c.due("brought back", x.flow(1, 0, 1), 2);
     }
 
+    // The same of hours in which no rain falls any more: nothing of an earlier NET is left there.
+    static void promise17_lateHoursFollow(Checks c) {
+        RiverDrains x = Checks.town(LONG_ROW + "rain z 1;");
+        for (int corner = 0; corner < 6; corner++) {
+            x.lay(corner, corner, 0, 2, 2);
+            x.worst(corner, 0);
+        }
+        long[] due = new long[16];
+        for (int hour = 0; hour < 16; hour += 3) {
+            due[hour] = 99;
+        }
+        flows(c, x, 5, 0, due);
+        x.take(0);
+        due[15] = 0;
+        flows(c, x, 5, 0, due);
+    }
+
     // "(hour 0 .. 29)"
     static void promise17_noSuchHour(Checks c) {
         RiverDrains x = row("rain z 1;");
@@ -295,6 +312,15 @@ public final class WaterEdgesTest {
             x.lay(corner, corner, 0, 2, 2);
         }
         c.due("nothing meets", x.floods(0), 0);
+    }
+
+    // "of a RAIN": floods of the one behind it are none of it, and the last RAIN has all its hours.
+    static void promise19_ofOneRain(Checks c) {
+        RiverDrains x = row("rain z 0 1;rain y 40;rain x 30 1;rain w 0 0 20;law carry 30;");
+        c.due("the first", x.floods(0), 0);
+        c.due("the second", x.floods(1), 50 + 90 + 170);
+        c.due("the third", x.floods(2), 30 + 60 + 120 + 3);
+        c.due("the fourth", x.floods(3), 10 + 30 + 70);
     }
 
     // The last hour in which there can be a flood is 20.
