@@ -25,8 +25,8 @@ public final class ReadmeTest {
         String readme = Files.readString(Path.of("README.md"));
         Path room = Files.createTempDirectory("readme");
         try {
-            copy(Path.of("src"), room.resolve("main/src"));
-            copy(Path.of("../shared"), room.resolve("shared"));
+            copy(Path.of("src").toRealPath(), room.resolve("main/src"));
+            copy(Path.of("../shared").toRealPath(), room.resolve("shared"));
             runExamples(checks, readme, room.resolve("main"));
         } finally {
             remove(room);
@@ -67,7 +67,7 @@ public final class ReadmeTest {
     }
 
     private static String run(Checks checks, String lines, Path room) throws IOException, InterruptedException {
-        Process shell = new ProcessBuilder("sh", "-e", "-c", lines).directory(room.toFile()).redirectErrorStream(true).start();
+        Process shell = new ProcessBuilder("/bin/sh", "-e", "-c", lines).directory(room.toFile()).redirectErrorStream(true).start();
         shell.getOutputStream().close();
         String printed = new String(shell.getInputStream().readAllBytes());
         int code = shell.waitFor();
