@@ -67,7 +67,8 @@ public final class ReadmeTest {
     }
 
     private static String run(Checks checks, String lines, Path room) throws IOException, InterruptedException {
-        Process shell = new ProcessBuilder("/bin/sh", "-e", "-c", lines).directory(room.toFile()).redirectErrorStream(true).start();
+        Process shell = new ProcessBuilder("/bin/sh", "-e", "-c", lines)
+            .directory(room.toFile()).redirectErrorStream(true).start();
         shell.getOutputStream().close();
         String printed = new String(shell.getInputStream().readAllBytes());
         int code = shell.waitFor();
